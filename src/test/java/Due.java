@@ -1,0 +1,31 @@
+/** Compares answers with those that are due, and ends a test with exit code 1 if one was not. */
+final class Due {
+    private static int wrong = 0;
+    private static int looked = 0;
+
+    private Due() {
+    }
+
+    static void same(String call, long got, long want) {
+        looked++;
+        if (got != want) {
+            wrong++;
+            System.out.println(call + " answered " + got + ", due is " + want);
+        }
+    }
+
+    static void yes(String call, boolean got) {
+        same(call, got ? 1 : 0, 1);
+    }
+
+    static void no(String call, boolean got) {
+        same(call, got ? 1 : 0, 0);
+    }
+
+    static void end() {
+        System.out.println(looked + " answers, " + wrong + " not as due");
+        if (wrong != 0) {
+            System.exit(1);
+        }
+    }
+}
