@@ -7,6 +7,7 @@ public final class AuditTest {
         guiltyOfHeardVotes();
         guiltyBySurrounding();
         proofIsTheLowest();
+        proofWithAllVotes();
         proofWrong();
         Due.end();
     }
@@ -50,7 +51,9 @@ public final class AuditTest {
         FinalityTree x = withTwoFinals();
         giveRow(x, 0, 1, 3, 5);
         giveRow(x, 1, 2, 4, 6, 8);
+        Due.same("only justified", x.checkpoint(0, 1), 1);
         Due.no("block 0 and block 2", x.conflict(0, 1));
+        Due.no("block 2 and block 0", x.conflict(1, 0));
         giveRow(x, 0, 7);
         Due.yes("block 1 and block 2", x.conflict(0, 1));
         Due.yes("the other way round", x.conflict(1, 0));
@@ -169,6 +172,24 @@ public final class AuditTest {
         x.hear(2, 6);
         Due.same("the lowest second one", x.proof(0), 306);
         Due.same("one vote alone", x.proof(2), -3);
+    }
+
+    /** 80 votes of three validators in 80 slots, of which the last two are of one epoch. */
+    private static void proofWithAllVotes() {
+        FinalityTree x = new FinalityTree(3, 0, 2);
+        for (int i = 0; i < 78; i++) {
+            x.vote(i % 2, 0, 2 + 2 * i);
+        }
+        x.vote(2, 0, 238);
+        Due.same("the last vote", x.vote(2, 0, 239), 79);
+        Due.same("no vote more", x.vote(2, 0, 2), -2);
+        Due.same("guilty of all", x.guilty(0, true), 1);
+        for (int i = 0; i < 80; i++) {
+            Due.yes("hear " + i, x.hear(i % 3, i));
+        }
+        Due.same("guilty of the heard", x.guilty(7, false), 1);
+        Due.same("proof(2)", x.proof(2), 7879);
+        Due.same("proof(0)", x.proof(0), -3);
     }
 
     private static void proofWrong() {

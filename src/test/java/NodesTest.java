@@ -18,6 +18,7 @@ public final class NodesTest {
         finalKeepsAJustifiedThatIsKnown();
         finalDropsAJustifiedThatIsForgotten();
         finalTakesAJustifiedOfGreaterEpoch();
+        finalOfGreaterEpochOnly();
         checkpointWrong();
         Due.end();
     }
@@ -81,24 +82,25 @@ public final class NodesTest {
         FinalityTree x = new FinalityTree(4, 0, 2);
         x.propose(0, 2);
         x.propose(0, 3);
+        x.vote(3, 1, 3);
         x.vote(0, 1, 3);
         x.vote(0, 2, 3);
         x.vote(1, 1, 3);
-        x.include(2);
-        x.accuse(1, 0);
+        x.include(3);
+        x.accuse(2, 1);
         Due.same("a vote and evidence", x.propose(1, 4), 3);
         Due.no("not given: its parent is missing", x.give(0, 3));
         x.give(0, 1);
-        Due.yes("a block that isn't given tells no votes", x.hear(1, 0));
-        Due.same("nothing heard by node 0", x.guilty(1, false), 0);
+        Due.same("a block that isn't given tells no votes", x.guilty(1, false), 0);
         x.give(0, 3);
         Due.same("heard both", x.guilty(1, false), 1);
-        Due.no("heard vote 0", x.hear(0, 0));
         Due.no("heard vote 1", x.hear(0, 1));
         Due.no("heard vote 2", x.hear(0, 2));
+        Due.no("heard vote 3", x.hear(0, 3));
+        Due.yes("did not hear vote 0, which is in no block", x.hear(0, 0));
         x.give(0, 2);
-        // Of validator 0 the latest is vote 1, for block 2, and of validator 1 it is for block 1.
-        Due.same("of several the lowest number", x.head(0), 3);
+        // For block 1 are validators 1 and 3, for block 2 is validator 0 by its latest vote.
+        Due.same("head", x.head(0), 3);
     }
 
     private static void hearOnce() {
@@ -408,6 +410,38 @@ public final class NodesTest {
         Due.no("block 1 is forgotten", x.knows(0, 1));
         Due.yes("block 5 is the root", x.knows(0, 5));
         Due.same("head", x.head(0), 10);
+    }
+
+    /** Votes of validators 0 and 1 for the parent, put into a block of the slot behind it. */
+    private static int proposeWithVotes(FinalityTree x, int parent) {
+        int slot = x.block(parent, 1);
+        x.include(x.vote(0, parent, slot));
+        x.include(x.vote(1, parent, slot));
+        return x.propose(parent, slot + 1);
+    }
+
+    /** Two chains from block 0 on: in epoch 1 the one makes block 0 final, the other block 2. */
+    private static void finalOfGreaterEpochOnly() {
+        FinalityTree x = new FinalityTree(3, 0, 2);
+        x.propose(0, 3);
+        x.propose(0, 2);
+        Due.same("justifies block 0 for epoch 1", proposeWithVotes(x, 1), 3);
+        Due.same("justifies block 3 for epoch 2", proposeWithVotes(x, 3), 4);
+        Due.same("final epoch", x.block(4, 6), 1);
+        Due.same("final block", x.block(4, 7), 0);
+        Due.same("justifies block 2 for epoch 1", proposeWithVotes(x, 2), 5);
+        Due.same("block 6", x.propose(5, 4), 6);
+        Due.same("justifies block 6 for epoch 2", proposeWithVotes(x, 6), 7);
+        Due.same("final epoch", x.block(7, 6), 1);
+        Due.same("final block", x.block(7, 7), 2);
+        for (int b = 1; b <= 7; b++) {
+            Due.yes("give " + b, x.give(0, b));
+        }
+        checkpoints(x, 0, 2, 3, 1, 0);
+        for (int b = 0; b <= 7; b++) {
+            Due.yes("knows " + b, x.knows(0, b));
+        }
+        Due.same("head", x.head(0), 4);
     }
 
     private static void checkpointWrong() {
