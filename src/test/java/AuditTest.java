@@ -174,7 +174,7 @@ public final class AuditTest {
         Due.same("one vote alone", x.proof(2), -3);
     }
 
-    /** 80 votes of three validators in 80 slots, of which the last two are of one epoch. */
+    /** 80 votes, each of an epoch of its own but for the last two. */
     private static void proofWithAllVotes() {
         FinalityTree x = new FinalityTree(3, 0, 2);
         for (int i = 0; i < 78; i++) {
