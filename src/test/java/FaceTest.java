@@ -2,6 +2,7 @@ import java.lang.reflect.Constructor;
 import java.lang.reflect.Field;
 import java.lang.reflect.Method;
 import java.lang.reflect.Modifier;
+import java.util.Arrays;
 import java.util.Set;
 import java.util.TreeSet;
 
@@ -22,6 +23,7 @@ public final class FaceTest {
         constants();
         methods();
         constructors();
+        classesInside();
         Due.end();
     }
 
@@ -33,6 +35,8 @@ public final class FaceTest {
         for (Field field : FinalityTree.class.getDeclaredFields()) {
             if (!Modifier.isPrivate(field.getModifiers())) {
                 seen.add(field.getName());
+                Due.yes("public static int: " + field.getName(), field.getType() == int.class
+                        && Modifier.isPublic(field.getModifiers()) && Modifier.isStatic(field.getModifiers()));
             }
             if (Modifier.isStatic(field.getModifiers())) {
                 Due.yes("final: " + field.getName(), Modifier.isFinal(field.getModifiers()));
@@ -47,6 +51,8 @@ public final class FaceTest {
         for (Method method : FinalityTree.class.getDeclaredMethods()) {
             if (!Modifier.isPrivate(method.getModifiers())) {
                 visible.add(written(method));
+                Due.yes("public, and of the object: " + method.getName(),
+                        Modifier.isPublic(method.getModifiers()) && !Modifier.isStatic(method.getModifiers()));
                 publicNames.add(method.getName());
             }
         }
@@ -72,6 +78,15 @@ public final class FaceTest {
         Constructor<?>[] all = FinalityTree.class.getDeclaredConstructors();
         Due.same("constructors", all.length, 1);
         Due.yes("the constructor is public", Modifier.isPublic(all[0].getModifiers()));
-        Due.same("its parameters", all[0].getParameterCount(), 3);
+        Due.yes("its parameters", Arrays.equals(all[0].getParameterTypes(),
+                new Class<?>[] {int.class, int.class, int.class}));
+    }
+
+    private static void classesInside() {
+        for (Class<?> inside : FinalityTree.class.getDeclaredClasses()) {
+            int modifiers = inside.getModifiers();
+            Due.yes("static, and not to be seen from outside: " + inside.getName(), Modifier.isStatic(modifiers)
+                    && !Modifier.isPublic(modifiers) && !Modifier.isProtected(modifiers));
+        }
     }
 }

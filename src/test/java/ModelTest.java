@@ -5,17 +5,23 @@ import java.util.Random;
  * Runs of 512 calls from fixed seeds, each answer compared with that of the plain model. The calls are
  * drawn so that chains grow, epochs become final on several branches and validators break the rules; how
  * often each of these came is looked at in the end, lest the runs become empty without anybody noticing.
+ * Two objects are used in turn, so that one which has a part in the other's answers is seen.
  */
 public final class ModelTest {
     private static final int RUNS = 3000;
     private static final int CALLS = 512;
+    /** Takes neighbouring seeds far apart: the golden ratio as a part of 2^64. */
+    private static final long SPREAD = 0x9E3779B97F4A7C15L;
 
     private final Random random;
     private final FinalityTree x;
     private final PlainModel model;
     private final StringBuilder calls = new StringBuilder();
+    private final boolean longChains;
     private int left = CALLS;
 
+    /** How many runs there were of each number of validators and each length. */
+    private static final int[][] SIZES = new int[8][6];
     private static int finals = 0;
     private static int conflicts = 0;
     private static int punishments = 0;
@@ -24,21 +30,35 @@ public final class ModelTest {
     private static int spoiled = 0;
 
     private ModelTest(long seed) {
-        random = new Random(seed);
+        // The first numbers of neighbouring seeds are alike: unspread, no run would have 3 or 4 validators.
+        random = new Random(seed * SPREAD);
         int validators = random.nextInt(8) + 1;
         int weights = random.nextInt(3) == 0 ? 0 : random.nextInt();
         int length = random.nextInt(6) + 1;
+        longChains = random.nextBoolean();
         x = new FinalityTree(validators, weights, length);
         model = new PlainModel(validators, weights, length);
+        SIZES[model.validators][model.length]++;
         calls.append("new ").append(validators).append(' ').append(weights).append(' ').append(length);
     }
 
     public static void main(String[] args) {
-        for (int seed = 0; seed < RUNS; seed++) {
-            new ModelTest(seed).run();
+        for (int seed = 0; seed < RUNS; seed += 2) {
+            ModelTest one = new ModelTest(seed);
+            ModelTest other = new ModelTest(seed + 1);
+            while (one.left > 0 || other.left > 0) {
+                one.step();
+                other.step();
+            }
         }
         System.out.println("final " + finals + ", conflicts " + conflicts + ", punished " + punishments
                 + ", forgotten " + forgotten + ", full " + full + ", spoiled " + spoiled);
+        for (int validators = 3; validators <= 7; validators++) {
+            for (int length = 2; length <= 5; length++) {
+                Due.yes("runs of " + validators + " validators and length " + length,
+                        SIZES[validators][length] > 20);
+            }
+        }
         Due.yes("some became final", finals > 100);
         Due.yes("some conflicted", conflicts > 20);
         Due.yes("some were punished", punishments > 100);
@@ -48,20 +68,19 @@ public final class ModelTest {
         Due.end();
     }
 
-    private void run() {
-        boolean longChains = random.nextBoolean();
-        while (left > 150) {
-            int kind = random.nextInt(10);
-            if (kind < 5) {
-                round(longChains);
-            } else if (kind < 7) {
-                wander();
-            } else {
-                gossip();
-            }
+    private void step() {
+        int kind = random.nextInt(10);
+        if (left <= 0) {
+            return;
         }
-        while (left > 0) {
+        if (left <= 150) {
             ask();
+        } else if (kind < 5) {
+            round();
+        } else if (kind < 7) {
+            wander();
+        } else {
+            gossip();
         }
     }
 
@@ -79,9 +98,13 @@ public final class ModelTest {
         return same(call, got ? 1 : 0, want ? 1 : 0) == 1;
     }
 
-    /** Nearly always one of those that are there. */
+    /** Nearly always one of those that are there, else one beside them, else any number. */
     private int one(int many) {
-        return random.nextInt(40) == 0 ? random.nextInt(many + 3) - 1 : random.nextInt(Math.max(1, many));
+        int kind = random.nextInt(160);
+        if (kind == 0) {
+            return random.nextInt();
+        }
+        return kind < 5 ? random.nextInt(many + 3) - 1 : random.nextInt(Math.max(1, many));
     }
 
     private int recentBlock() {
@@ -90,7 +113,7 @@ public final class ModelTest {
     }
 
     /** Votes of most validators for one head, put into a block behind it. */
-    private void round(boolean longChains) {
+    private void round() {
         int head = longChains ? recentBlock() : one(model.blocks.size());
         if (model.noBlock(head)) {
             return;

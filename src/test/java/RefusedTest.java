@@ -1,6 +1,7 @@
 /**
  * "A call that is refused changes nothing.": behind each kind of refused call every question has the answer
- * that it had before, and the items for the next block make the same blocks.
+ * that it had before, and the items for the next block make the same blocks. So it is behind each question,
+ * for which the document tells no change.
  */
 public final class RefusedTest {
     private static final int MIN = Integer.MIN_VALUE;
@@ -8,6 +9,7 @@ public final class RefusedTest {
 
     public static void main(String[] args) {
         questionsSeeWhatIsDone();
+        questionsChangeNothing();
         refusedVotes();
         refusedItems();
         refusedBlocks();
@@ -67,6 +69,35 @@ public final class RefusedTest {
         ORDINARY.changes("propose", x -> x.propose(4, 7));
         ORDINARY.changes("give", x -> x.give(2, 1) ? 1 : 0);
         ORDINARY.changes("hear", x -> x.hear(2, 0) ? 1 : 0);
+    }
+
+    private static void questionsChangeNothing() {
+        for (int what = 0; what < 8; what++) {
+            int asked = what;
+            int[] want = {3, 5, 1, 3, 2, 3, 1, 1};
+            ORDINARY.refused("block(4, " + what + ")", x -> x.block(4, asked), want[what]);
+        }
+        for (int what = 0; what < 7; what++) {
+            int asked = what;
+            int[] want = {2, 4, 3, 1, 1, 2, 3};
+            ORDINARY.refused("ballot(4, " + what + ")", x -> x.ballot(4, asked), want[what]);
+        }
+        for (int what = 0; what < 4; what++) {
+            int asked = what;
+            int[] want = {2, 3, 1, 1};
+            ORDINARY.refused("checkpoint(0, " + what + ")", x -> x.checkpoint(0, asked), want[what]);
+        }
+        // Half of 31, and then 5 for the evidence: validator 0 both proposes block 6 and is accused in it.
+        ORDINARY.refused("balance(6, 0)", x -> x.balance(6, 0), 20);
+        ORDINARY.refused("punished(6, 0)", x -> x.punished(6, 0) ? 1 : 0, 1);
+        ORDINARY.refused("counted(4, 2)", x -> x.counted(4, 2), 0);
+        ORDINARY.refused("knows(1, 6)", x -> x.knows(1, 6) ? 1 : 0, 1);
+        ORDINARY.refused("head(0)", x -> x.head(0), 4);
+        ORDINARY.refused("head(1)", x -> x.head(1), 6);
+        ORDINARY.refused("conflict(0, 1)", x -> x.conflict(0, 1) ? 1 : 0, 0);
+        ORDINARY.refused("guilty(2, false)", x -> x.guilty(2, false), 1);
+        ORDINARY.refused("guilty(0, true)", x -> x.guilty(0, true), 5);
+        ORDINARY.refused("proof(0)", x -> x.proof(0), 607);
     }
 
     private static void refusedVotes() {
